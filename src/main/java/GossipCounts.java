@@ -630,12 +630,9 @@ public final class GossipCounts {
                 return NONE;
             }
             ranks[thing] = rank;
-            // An undone thing may have left its numbers here.
-            counts[thing] = 0;
             came[thing] = time;
             endNumbers[thing] = NONE;
             endTimes[thing] = NONE;
-            endKinds[thing] = 0;
             living |= 1 << thing;
             things++;
             return thing;

@@ -285,6 +285,10 @@ public final class PromisesTest {
         t.suspect(1);
         is("8: behind tick 5", t.pass(2), 0);
         is("8: the trial of tick 6", t.pass(1), 1);
+        t.set(4, 1);
+        t.add(0);
+        t.suspect(2);
+        is("8: a trial in each tick", t.pass(1), 1);
     }
 
     private static void promise9Trial() {
@@ -459,7 +463,8 @@ public final class PromisesTest {
             {"s24", 2}, {"s3.", 3}, {"s30", 2}, {"s0=", 2}, {"s0.4", 3}, {"s0.3=-", 6}, {"s0.3-", 4}, {"s10.0=1", 7},
             {"s123", 3}, {"t", 1}, {"t0", 1}, {"t1", 2}, {"t99", 3}, {"t100", 3}, {"t10", 3}, {"t1;", 3}, {"t-", 1},
             {"j", 1}, {"jj", 1}, {"j;j", 3}, {"j;", 2}, {"J", 0}, {"n1;h0=0;s0.0=0;t5;j", 19}, {"n1,n2", 2},
-            {"n1;n2;q;n3", 6}, {"q;q", 0}
+            {"n1;n2;q;n3", 6}, {"q;q", 0}, {"t:", 1}, {"t1:", 2}, {"h0=:", 3}, {"h0=1:", 4}, {"h0=20", 5}, {"h0=2/", 4},
+            {"s:", 1}, {"s1:", 2}, {"s20.", 4}, {"s2/", 2}, {"s/", 1}, {"t/", 1}, {"t1/", 2}, {"s0/", 2}, {"h0/", 2}
         };
         for (Object[] c : cases) {
             GossipCounts g = new GossipCounts();
@@ -662,6 +667,13 @@ public final class PromisesTest {
         Check.badArgument("19: -1", () -> g.report(0, -1));
         g.pass(1);
         is("19: two were heard", g.report(0, 0), 1);
+        GossipCounts h = quick(2);
+        h.put(0, 0, 1);
+        h.put(0, 1, 1);
+        h.set(1, 2);
+        h.slander(0, -1);
+        is("19: of an end, which is not false", h.report(0, 4) * 10 + h.report(0, 2), -1);
+        is("19: both of an end", h.report(1, 0) * 100 + h.report(1, 1) * 10 + h.report(1, 3), 412);
         Check.noThing("19: place 3", () -> g.report(3, 0));
     }
 
@@ -788,6 +800,18 @@ public final class PromisesTest {
             h.pass(100 - (n == 0 ? 1 : 0));
         }
         is("24: beyond 5000", h.count(0) * 10 + h.thing(0, 0), 50000);
+        // The same with a last link of one tick more: 10 times 20, then 1.
+        GossipCounts past = quick(15);
+        int[] chain = {0, 1, 3, 4, 6, 7, 9, 10, 12, 13, 14};
+        for (int n = 0; n < 10; n++) {
+            past.put(chain[n], 0, chain[n + 1]);
+        }
+        delays(past, 20);
+        past.set(2, 1);
+        past.slander(0, -1);
+        is("24: 200 ticks", past.endsIn(13), 200);
+        is("24: 201 are too many", past.endsIn(14), NONE);
+        is("24: until a tick has passed", past.pass(1) * 1000 + past.endsIn(14), 200);
         int fresh = h.add(0);
         h.suspect(fresh);
         is("24: the limit does not matter", h.endsIn(fresh), 50);
@@ -813,6 +837,27 @@ public final class PromisesTest {
         g.suspect(2);
         g.slander(2, 1);
         is("25: stays a suspect", g.ifTried(1), 1);
+        // 1 ends ahead of 0 by its rank: so 4 is heard of first, lets 3 go, and only 4 is wronged, not 3.
+        GossipCounts h = quick(0);
+        for (int rank : new int[] {1, 5, 0, 0, 0}) {
+            h.add(rank);
+        }
+        h.put(0, 0, 1);
+        h.put(0, 1, 2);
+        h.put(0, 2, 3);
+        h.put(1, 0, 4);
+        h.put(2, 0, 4);
+        h.put(4, 0, 3);
+        h.take(0, 2);
+        h.slander(4, -1);
+        h.slander(3, -1);
+        h.suspect(0);
+        is("25: two in the trial, two by counts", h.ifTried(0), 4);
+        is("25: the order of ends matters", h.ifTried(2), 1);
+        is("25: 2 becomes a suspect", h.ifTried(1), 1);
+        h.trial();
+        is("25: the order", h.ended(0) * 1000 + h.ended(1) * 100 + h.ended(2) * 10 + h.ended(3), 1043);
+        is("25: wronged", h.thing(4, 12) * 10 + h.thing(3, 12), 10);
         Check.badArgument("25: 3", () -> g.ifTried(3));
         Check.badArgument("25: -1", () -> g.ifTried(-1));
     }
@@ -954,6 +999,17 @@ public final class PromisesTest {
             0, 0, 0, 0, 0, 0, 0, 0, -1, 0, 0, 0, 0};
         is("30: an end", h.digest(), hashed(ended));
         everyShare();
+        GossipCounts many = busy();
+        many.clearBuffer();
+        is("30: as the other calls tell", many.digest(), digestOf(many));
+        GossipCounts edge = quick(3);
+        edge.put(0, 0, 2);
+        edge.put(2, 0, 1);
+        edge.set(2, 20);
+        edge.set(1, 1);
+        edge.slander(0, -1);
+        is("30: 2 ends in 20 ticks, 1 in 21", edge.endsIn(2) * 100 + edge.endsIn(1), 2021);
+        is("30: of which the digest sees 20", edge.digest(), digestOf(edge));
     }
 
     private static long hashed(long[] values) {
