@@ -13,12 +13,14 @@ public final class AgainstPlainModelTest {
     private final List<String> told = new ArrayList<>();
     private final boolean zeroDelays;
     private final boolean fewThings;
+    private final boolean manyReports;
     private static final TreeMap<String, Integer> seen = new TreeMap<>();
 
     private AgainstPlainModelTest(int seed) {
         chance = new Chance(seed);
         zeroDelays = chance.below(3) == 0;
         fewThings = chance.below(2) == 0;
+        manyReports = chance.below(5) == 0;
     }
 
     /** A generator of our own, so that the runs stay the same under every Java. */
@@ -63,6 +65,8 @@ public final class AgainstPlainModelTest {
         note("wronged", model.count(9));
         note("slander found", model.count(10));
         note("reports", model.count(6));
+        note("runs with over 700 reports", model.count(6) > 700 ? 1 : 0);
+        note("runs with over 200 reports under way", model.count(5) > 200 ? 1 : 0);
         return true;
     }
 
@@ -95,6 +99,9 @@ public final class AgainstPlainModelTest {
         int a = aThing();
         int b = aThingOrNone();
         int s = aLittleOff(0, 3);
+        if (manyReports && model.count(2) > 0 && chance.below(5) != 0) {
+            return same("put " + a + " " + s + " " + a, () -> real.put(a, s, a), () -> model.put(a, s, a));
+        }
         switch (chance.below(26)) {
             case 0:
             case 1:

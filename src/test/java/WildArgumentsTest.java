@@ -24,7 +24,9 @@ public final class WildArgumentsTest {
 
     public static void main(String[] args) {
         everyCallWithEveryWildArgument();
-        reportsWithoutEnd();
+        reportsWithoutEnd(20);
+        reportsWithoutEnd(2);
+        reportsWithoutEnd(0);
         for (int n = 0; n < 60; n++) {
             randomCalls(3000, n % 3 == 0);
         }
@@ -94,14 +96,14 @@ public final class WildArgumentsTest {
         }
     }
 
-    /** More reports under way than 512 calls can make. */
-    private static void reportsWithoutEnd() {
+    /** More reports than 512 calls can make, all under way, or heard at once. */
+    private static void reportsWithoutEnd(int delay) {
         GossipCounts g = new GossipCounts();
         for (int n = 0; n < 24; n++) {
             g.add(0);
         }
         for (int s = 0; s < 3; s++) {
-            g.set(s, 20 - s);
+            g.set(s, Math.max(0, delay - s));
         }
         for (int n = 0; n < 5000; n++) {
             int thing = n % 24;
