@@ -54,7 +54,7 @@ public final class AgainstPlainModelTest {
 
     private boolean sameAllTheWay(int seed) {
         for (int n = 0; n < CALLS; n++) {
-            if (!sameCall()) {
+            if (!sameCall() || !endedWithoutReports()) {
                 System.out.println("seed " + seed + ":");
                 told.forEach(System.out::println);
                 return false;
@@ -67,6 +67,18 @@ public final class AgainstPlainModelTest {
         note("reports", model.count(6));
         note("runs with over 700 reports", model.count(6) > 700 ? 1 : 0);
         note("runs with over 200 reports under way", model.count(5) > 200 ? 1 : 0);
+        return true;
+    }
+
+    /** Why nothing is ever heard of a thing that has ended: see termCountsNoThingEndsWithReportsUnderWay. */
+    private boolean endedWithoutReports() {
+        for (int end = 0; end < real.count(7); end++) {
+            int thing = real.ended(end);
+            if (real.thing(thing, 4) != 0 || real.thing(thing, 5) != 0) {
+                Check.equal("reports for " + thing + ", which has ended", real.thing(thing, 4), 0);
+                return false;
+            }
+        }
         return true;
     }
 
